@@ -74,7 +74,7 @@ public final class RangeReckoner {
 
     private final Variables variables;
     private final Tape tape;
-    private final Reader reader;
+    private final Parser parser;
     // The term at hand; without any part there is none.
     private Term term;
     // What the next text is read into, so that the term at hand outlives a fault.
@@ -85,7 +85,7 @@ public final class RangeReckoner {
         tape = new Tape();
         term = new Term();
         spare = new Term();
-        reader = new Reader(variables, tape, spare);
+        parser = new Parser(variables, tape, spare);
     }
 
     public int variable(int low, int high) {
@@ -101,7 +101,7 @@ public final class RangeReckoner {
     }
 
     public int take() {
-        int fault = reader.read(spare);
+        int fault = parser.read(spare);
         tape.clear();
         if (fault == NO_FAULT) {
             Term former = term;
@@ -304,7 +304,7 @@ public final class RangeReckoner {
     }
 
     /** Cuts the tape into tokens, one at each step. */
-    private static final class Scanner {
+    private static final class Tokens {
         private final Tape tape;
         private int next = 0;
         private int token = END;
@@ -312,7 +312,7 @@ public final class RangeReckoner {
         // What digits say, or which variable it is.
         private int number = 0;
 
-        private Scanner(Tape tape) {
+        private Tokens(Tape tape) {
             this.tape = tape;
         }
 
@@ -776,14 +776,14 @@ public final class RangeReckoner {
      * Reads the tape's tokens from left to right into a term, or up to its first fault. Operators
      * wait on a stack for their last part instead of in calls, which bounds the calls that stand open.
      */
-    private static final class Reader {
+    private static final class Parser {
         private static final int OPERAND = 0;
         private static final int BRACKET = 1;
         private static final int OPERATOR = 2;
         private static final int NOTHING = 3;
 
         private final Variables variables;
-        private final Scanner scanner;
+        private final Tokens tokens;
         private final Pending pending = new Pending();
         // The parts that no operator has taken yet.
         private final int[] loose = new int[MOST_PARTS];
@@ -795,26 +795,22 @@ public final class RangeReckoner {
         private int wanted = NOTHING;
         private int fault = NO_FAULT;
 
-        private Reader(Variables variables, Tape tape, Term term) {
+        private Parser(Variables variables, Tape tape, Term term) {
             this.variables = variables;
-            this.scanner = new Scanner(tape);
+            this.tokens = new Tokens(tape);
             this.term = term;
         }
 
         private int read(Term into) {
             restart(into);
             for (int step = 0; step <= MOST_SIGNS && wanted != NOTHING; step++) {
-                scanner.advance();
+                tokens.advance();
                 if (wanted == OPERAND) {
                     readOperand();
                 } else if (wanted == BRACKET) {
                     readBracket();
                 } else if (!goesOn()) {
                     endTerm();
-                }
-                // What these take is whole now, whatever token stands behind.
-                if (wanted == OPERATOR) {
-                    settle(OF_PRODUCT);
                 }
             }
             return fault;
@@ -823,7 +819,7 @@ public final class RangeReckoner {
         private void restart(Term into) {
             term = into;
             term.clear();
-            scanner.restart();
+            tokens.restart();
             pending.clear();
             looseSize = 0;
             wanted = OPERAND;
@@ -836,10 +832,10 @@ public final class RangeReckoner {
         }
 
         private void readOperand() {
-            switch (scanner.token) {
+            switch (tokens.token) {
                 case DIGITS:
-                    given.put(scanner.number, scanner.number);
-                    addPart(DIGITS, scanner.place, NUMBER, NONE);
+                    given.put(tokens.number, tokens.number);
+                    addPart(DIGITS, tokens.place, NUMBER, NONE);
                     break;
                 case VARIABLE:
                     readVariable();
@@ -849,41 +845,41 @@ public final class RangeReckoner {
                     break;
                 case NOT:
                 case OPEN:
-                    nest(scanner.token, OPERAND);
+                    nest(tokens.token, OPERAND);
                     break;
                 case MIN:
                 case MAX:
                 case ABS:
-                    nest(scanner.token, BRACKET);
+                    nest(tokens.token, BRACKET);
                     break;
                 default:
-                    blame(CANNOT_COME, scanner.place);
+                    blame(CANNOT_COME, tokens.place);
             }
         }
 
         private void readVariable() {
-            int variable = scanner.number;
+            int variable = tokens.number;
             if (!variables.has(variable)) {
-                blame(CANNOT_COME, scanner.place);
+                blame(CANNOT_COME, tokens.place);
                 return;
             }
             given.put(variables.lowOf(variable), variables.highOf(variable));
-            addPart(VARIABLE, scanner.place, NUMBER, variable);
+            addPart(VARIABLE, tokens.place, NUMBER, variable);
         }
 
         private void readBracket() {
-            if (scanner.token == OPEN) {
+            if (tokens.token == OPEN) {
                 wanted = OPERAND;
             } else {
-                blame(CANNOT_COME, scanner.place);
+                blame(CANNOT_COME, tokens.place);
             }
         }
 
         private void nest(int code, int wantedNext) {
             if (pending.nested >= MOST_NESTED) {
-                blame(TOO_NESTED, scanner.place);
+                blame(TOO_NESTED, tokens.place);
             } else {
-                pending.push(code, scanner.place);
+                pending.push(code, tokens.place);
                 wanted = wantedNext;
             }
         }
@@ -910,7 +906,7 @@ public final class RangeReckoner {
 
         /** Reads an operator that stands behind its first part; false if the token is none that can. */
         private boolean goesOn() {
-            int token = scanner.token;
+            int token = tokens.token;
             int strength = token == QUESTION ? OF_CHOICE : strengthOf(token);
             if (strength == HOLDS_NOTHING || strength == OF_FRONT) {
                 return false;
@@ -925,7 +921,7 @@ public final class RangeReckoner {
             if (token == QUESTION) {
                 nest(QUESTION, OPERAND);
             } else {
-                pending.push(token, scanner.place);
+                pending.push(token, tokens.place);
                 wanted = OPERAND;
             }
             return true;
@@ -954,24 +950,17 @@ public final class RangeReckoner {
 
         private void readBehindTerm(int around, boolean last) {
             int due = tokenDue(around, last);
-            if (scanner.token != due) {
-                blame(CANNOT_COME, scanner.place);
+            if (tokens.token != due) {
+                blame(CANNOT_COME, tokens.place);
             } else if (due == END) {
                 wanted = NOTHING;
-            } else if (due == CLOSE) {
-                closeBracket(around);
-            } else {
+            } else if (due != CLOSE) {
                 pending.cameNextTerm();
                 wanted = OPERAND;
-            }
-        }
-
-        private void closeBracket(int around) {
-            // A function has left the stack already, when it became a part.
-            if (around == OPEN) {
+            } else if (around == OPEN) {
+                // A function has left the stack already, when it became a part.
                 pending.pop();
             }
-            wanted = OPERATOR;
         }
 
         /** The token that must stand behind a whole term within what is around it. */

@@ -212,6 +212,29 @@ public final class PromiseTests {
         checks.due("it is the one at hand", x.value(0), 7);
         x.variable(0, 1);
         checks.due("a later variable", Checks.take(x, "v5"), 0);
+        textsAfterFaults();
+        longestText();
+    }
+
+    private static void textsAfterFaults() {
+        RangeReckoner x = five();
+        checks.due("100 digits left alone", Checks.take(x, "1||1&&1<1+1*(".repeat(20)), 1 + 8 * 260);
+        checks.due("32 brackets left open", Checks.take(x, "(".repeat(32)), 1 + 8 * 32);
+        checks.due("32 brackets again", Checks.take(x, "(".repeat(32) + "1" + ")".repeat(32)), 0);
+        checks.due("many parts again", Checks.take(x, "-1" + "+1".repeat(49)), 0);
+        checks.due("a fault", Checks.take(x, "1+2?"), 1 + 8 * 4);
+        checks.due("another term", Checks.take(x, "7-3"), 0);
+        checks.due("its value", x.value(2), 4);
+        checks.due("its parts", x.count(1), 3);
+    }
+
+    private static void longestText() {
+        RangeReckoner x = five();
+        checks.due("400 tokens", Checks.take(x, "(((1)))+".repeat(49) + "-(((1)))"), 0);
+        checks.due("their parts", x.count(1), 100);
+        checks.due("their value", x.value(99), 48);
+        checks.due("the last part's place", x.part(99, 0), 391);
+        checks.due("400 tokens, one open", Checks.take(x, "(((1)))+".repeat(49) + "((((1)))"), 1 + 8 * 400);
     }
 
     private static void tokens() {
@@ -233,10 +256,14 @@ public final class PromiseTests {
         fault("v001", 1, 3);
         fault("v0 1", 1, 3);
         fault("1 v9", 1, 2);
-        for (String none : new String[] {"@", "&", "|", "=", "m", "mi", "a", "ab", "x", "V0", ".", "~", "[", "mni", "#"}) {
+        for (String none : new String[] {"v", "v ", "vv", "@", "&", "|", "=", "m", "mi", "a", "ab", "x", "V0", ".", "~", "[", "mni", "#"}) {
             fault(none, 1, 0);
             fault("1" + none, 1, 1);
             fault("1+" + none, 1, 2);
+            fault("(" + none, 1, 1);
+            fault("-" + none, 1, 1);
+            fault("(1)" + none, 1, 3);
+            fault("min(" + none, 1, 4);
         }
         fault("1&1", 1, 1);
         fault("1|1", 1, 1);
@@ -279,6 +306,8 @@ public final class PromiseTests {
         worth("1>2?3:4+10", 14);
         worth("min(3,max(1,2))", 2);
         worth("abs(3-8)", 5);
+        worth("10+abs(3-8)", 15);
+        worth("10*-abs(-2)", -20);
         truth("1<2||1<2&&1>2", 1);
         truth("(1<2||1<2)&&1>2", 0);
         truth("1+1<3", 1);
@@ -358,6 +387,10 @@ public final class PromiseTests {
         range("abs(v1-5)", 0, 25);
         range("abs(v2)", 0, GREATEST);
         range("min(v1,v0)", -20, 9);
+        range("min(v0,v1)", -20, 9);
+        range("max(v0,v1)", 0, 20);
+        range("v0+abs(v3)", 3, 18);
+        range("v0+-v3", 3, 18);
         range("max(v1,v0)", 0, 20);
         range("min(v3,v4)", -9, -3);
         range("max(v3,v4)", 3, 9);
@@ -575,6 +608,14 @@ public final class PromiseTests {
         worth("min(2,-3)", -3);
         worth("max(2,-3)", 2);
         worth("abs(-3)", 3);
+        for (int a = 0; a < 2; a++) {
+            for (int b = 0; b < 2; b++) {
+                truth("1==" + a + "&&1==" + b, a & b);
+                truth("1==" + a + "||1==" + b, a | b);
+                truth("1==" + a + "&&!(1==" + b + ")", a & (1 - b));
+                truth("(1==" + a + ")==(1==" + b + ")", a == b ? 1 : 0);
+            }
+        }
         truth("1<1", 0);
         truth("1>1", 0);
         truth("1>=1", 1);
