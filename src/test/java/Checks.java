@@ -2,6 +2,8 @@
 final class Checks {
     private int right = 0;
     private int wrong = 0;
+    private int held = 0;
+    private int broken = 0;
 
     void due(String what, long got, long want) {
         if (got == want) {
@@ -16,9 +18,27 @@ final class Checks {
         due(what, got ? 1 : 0, want ? 1 : 0);
     }
 
+    /** A sentence of the document in its own words, and the test that it has for itself. */
+    void sentence(String words, Runnable test) {
+        int rightBefore = right;
+        int wrongBefore = wrong;
+        try {
+            test.run();
+        } catch (RuntimeException e) {
+            due("no throw, but " + e + " came", false, true);
+        }
+        if (wrong == wrongBefore && right > rightBefore) {
+            held++;
+            return;
+        }
+        broken++;
+        System.out.println("BROKEN: " + words);
+    }
+
     void end() {
+        if (held + broken > 0) System.out.println(held + " sentences held, " + broken + " broken");
         System.out.println(right + " passed, " + wrong + " failed");
-        if (wrong != 0 || right == 0) System.exit(1);
+        if (wrong != 0 || broken != 0 || right == 0) System.exit(1);
     }
 
     /** Four signs from a place on as one int, zeros where the text has none. */
